@@ -248,9 +248,6 @@ public final class GraverCalculator {
             return ILLEGAL_STATE;
         }
         buildPointFiber();
-        if (number >= pointFiber.size) {
-            return NONE;
-        }
         int start = pointFiber.numberOf(state.point);
         int steps = walk.countSteps(pointFiber, basis, state, start, number);
         return steps < 0 ? NONE : steps;
@@ -504,7 +501,6 @@ public final class GraverCalculator {
         /** Returns the error position, or -1 if rows, columns and digits now hold the matrix. */
         int findError() {
             rows = 1;
-            columns = 0;
             digitsInRow = 0;
             for (int i = 0; i < length; i++) {
                 if (!takes(characters[i])) {
