@@ -40,12 +40,8 @@ final class AllMatricesTest {
         }
         String matrix = rows + "x" + columns + " " + name + ": ";
         compareBases(matrix, x, due, columns);
-        // The reference is slow here; a prime distance meets all kinds of two-row matrices.
-        boolean few = rows == 1 || columns < 4 || code % 7 == 0;
-        if (few) {
-            compareReducing(matrix, x, due);
-        }
-        if (few && due.isPositive() == 1) {
+        compareReducing(matrix, x, due);
+        if (due.isPositive() == 1) {
             compareElementFibers(due, columns);
             compareGreatestFibers(matrix, x, due, columns);
         }

@@ -221,8 +221,8 @@ final class PromisesTest {
             "11;111", "1111;11111", "11;11;", "11;;", "11;1;", "4", "14", "11;4", "11;/1", "11;:1", "11\t", "11,11", "12;34", "1 2 3 ; 1 2 x"};
         int[] positions = {0, 3, 1, 2, 0, 1, 3, 4, 6, 5, 4, 5,
             5, 9, 5, 3, 4, 0, 1, 3, 3, 3, 2, 2, 4, 12};
-        GraverCalculator x = new GraverCalculator();
         for (int i = 0; i < texts.length; i++) {
+            GraverCalculator x = new GraverCalculator();
             write(x, texts[i]);
             DUE.is("loadText() of '" + texts[i] + "'", x.loadText(), -10 - positions[i]);
             DUE.is("loadText() again", x.loadText(), -10 - positions[i]);
