@@ -60,6 +60,14 @@ final class BasisEdgesTest {
         DUE.is("basis", Calls.basis(x), "1 -1");
         DUE.is("setEntry(1, 1, 0)", x.setEntry(1, 1, 0), 1);
         DUE.is("graverCount()", x.graverCount(), 0);
+        DUE.begin("a column becomes zero: what the greater entries left behind is not told");
+        x = Calls.load("11");
+        DUE.is("setEntry(0, 1, 0)", x.setEntry(0, 1, 0), 1);
+        DUE.is("basis of 10", Calls.basis(x), "0 1");
+        x = Calls.load("1100;0011");
+        x.setEntry(0, 1, 0);
+        x.setEntry(1, 2, 0);
+        DUE.is("basis of 1000;0001", Calls.basis(x), "0 1 0 0, 0 0 1 0");
     }
 
     private static void fewestElements() {
@@ -198,6 +206,15 @@ final class BasisEdgesTest {
         DUE.is("circuits of 121", Calls.circuits(Calls.load("121")), "1101");
         DUE.is("circuits of 123", Calls.circuits(Calls.load("123")), "10101");
         DUE.is("circuits of 1111;0123", Calls.circuits(Calls.load("1111;0123")), "01111");
+        DUE.begin("isCircuit: of rank 1 without zeros, just the elements of two columns");
+        for (String text : new String[] {"1111", "2233", "3211", "1123", "1213"}) {
+            GraverCalculator x = Calls.load(text);
+            String due = "";
+            for (String element : Calls.basis(x).split(", ")) {
+                due += element.replaceAll("[^1-9]", "").length() == 2 ? "1" : "0";
+            }
+            DUE.is("circuits of " + text, Calls.circuits(x), due);
+        }
         DUE.begin("isCircuit: a single element");
         DUE.is("circuits of 23", Calls.circuits(Calls.load("23")), "1");
         DUE.is("circuits of 123;321", Calls.circuits(Calls.load("123;321")), "1");
