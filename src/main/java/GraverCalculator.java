@@ -911,28 +911,21 @@ public final class GraverCalculator {
             if (upper[place] == 0 && lower[place] == 0) {
                 return 0;
             }
-            int limit = MASK;
-            if (upper[place] > 0) {
-                limit = Math.min(limit, left / upper[place]);
-            }
-            if (lower[place] > 0) {
-                limit = Math.min(limit, left2 / lower[place]);
-            }
-            return limit;
+            int limit = upper[place] > 0 ? left / upper[place] : MASK;
+            int limit2 = lower[place] > 0 ? left2 / lower[place] : MASK;
+            return limit < limit2 ? limit : limit2;
         }
 
         private void addRows(int code, int left, int left2) {
             int most2 = most(2, left, left2);
             for (int y2 = 0; y2 <= most2; y2++) {
-                addIfExact((code << BITS) | y2, left - upper[2] * y2, left2 - lower[2] * y2);
-            }
-        }
-
-        private void addIfExact(int code, int left, int left2) {
-            int last = most(3, left, left2);
-            if (upper[3] * last == left && lower[3] * last == left2 && size < packed.length) {
-                packed[size] = (code << BITS) | last;
-                size++;
+                int due = left - upper[2] * y2;
+                int due2 = left2 - lower[2] * y2;
+                int y3 = most(3, due, due2);
+                if (upper[3] * y3 == due && lower[3] * y3 == due2 && size < packed.length) {
+                    packed[size] = (((code << BITS) | y2) << BITS) | y3;
+                    size++;
+                }
             }
         }
     }
